@@ -34,8 +34,6 @@ public final class LoneAdjective {
     private final int[] paid = new int[MOST_PEOPLE];
 
     public LoneAdjective() {
-        current.clear();
-        now.beginIn(current);
     }
 
     // ---- the town
@@ -516,6 +514,10 @@ public final class LoneAdjective {
         final int[][] odds = new int[MOST_PEOPLE][MOST_PEOPLE];
         final int[] allowed = new int[MOST_WORDS];
 
+        Town() {
+            clear();
+        }
+
         void clear() {
             squares = 0;
             start = NONE;
@@ -810,6 +812,10 @@ public final class LoneAdjective {
         int seed;
         boolean kept;
         final int[] doneAt = new int[MOST_DEEDS];
+
+        State() {
+            Arrays.fill(doneAt, NONE);
+        }
 
         void beginIn(Town town) {
             minutes = 0;

@@ -110,6 +110,12 @@ public final class DoingTest {
             y.pass(999);
         }
         y.pass(90);
+        y.keep(0);
+        C.due("pass at 90000", y.pass(1), 90001);
+        C.due("pass at 90001", y.pass(1), FULL);
+        C.due("lend at 90001", y.lend(0), FULL);
+        C.due("drift at 90001", y.drift(1), FULL);
+        y.goBack(0);
         C.due("drift at 90000 goes through", y.drift(30), 90030);
     }
 

@@ -14,6 +14,8 @@ public final class TownTest {
         faultThree();
         faultFour();
         goodTexts();
+        olderTexts();
+        fullTexts();
         toldEdges();
         farAndPeople();
         deedsTrustWords();
@@ -219,6 +221,49 @@ public final class TownTest {
         good("t1 0;p0 0;d0 1 1 1;d0 1 1 1;d0 1 1 1;d0 1 1 1;d0 1 1 1;d0 1 1 1;o63;o63;o1;o32;", 6);
     }
 
+    /** What an older text left behind the end of the new one is not read. */
+    private static void olderTexts() {
+        LoneAdjective x = Check.townOf("t1 0;p0 0;d0 1 1 1;o1;");
+        Check.feed(x, "t1 0");
+        C.due("the old ';' is gone", x.town(), -11);
+        C.due("fault", x.fault(), 4);
+        Check.feed(x, "t77777777");
+        x.town();
+        Check.feed(x, "t1 ");
+        C.due("the old figures are gone", x.town(), -11);
+        C.due("fault", x.fault(), 3);
+        Check.feed(x, "t1 0;");
+        C.due("town", x.town(), 0);
+        C.due("no people", x.told(1), 0);
+        C.due("no deeds", x.told(2), 0);
+        C.due("no words", x.told(3), 0);
+        Check.feed(x, "t1 0;p0 5;p0 6;d0 1 1 1;o1;");
+        C.due("town", x.town(), 1);
+        Check.feed(x, "t1 0;p0 0;p0 0;p0 0;d1 1 1 1;d1 1 1 1;o2;o3;x");
+        C.due("fault", x.town(), -11);
+        Check.feed(x, "t2 1;p1 9;");
+        C.due("town", x.town(), 0);
+        C.due("one person", x.told(1), 1);
+        C.due("no words", x.told(3), 0);
+        C.due("his square", x.person(0, 0), 1);
+    }
+
+    private static void fullTexts() {
+        LoneAdjective x = new LoneAdjective();
+        Check.feed(x, "t1 0;" + " ".repeat(245));
+        C.due("letters", x.told(4), 250);
+        C.due("town of 250 letters", x.town(), 0);
+        Check.feed(x, "t1 0;" + " ".repeat(244) + "p");
+        C.due("town that ends in a word", x.town(), -11);
+        C.due("its fault", x.fault(), 250);
+        Check.feed(x, "t" + "0".repeat(249));
+        C.due("town that ends in figures", x.town(), -12);
+        C.due("its fault", x.fault(), 1);
+        Check.feed(x, "t1 " + " ".repeat(246) + "0");
+        C.due("town that ends in a number", x.town(), -11);
+        C.due("its fault", x.fault(), 250);
+    }
+
     private static void toldEdges() {
         LoneAdjective x = Check.townOf(Towns.MARKET);
         C.due("told(-1)", x.told(-1), OUTSIDE);
@@ -256,6 +301,7 @@ public final class TownTest {
         LoneAdjective way = Check.townOf("t4 0;w0 1 30;w0 2 1;w2 3 1;w3 1 1;");
         C.due("round about is nearer", way.far(0, 1), 3);
         C.due("and back", way.far(1, 0), 3);
+        C.due("by square 0", Check.townOf("t3 1;w0 1 2;w0 2 3;").far(1, 2), 5);
         C.due("person(2, 0)", x.person(2, 0), 3);
         C.due("person(2, 1)", x.person(2, 1), 2);
         C.due("person(3, 0)", x.person(3, 0), 4);

@@ -78,6 +78,9 @@ public final class TriedTest {
         C.due("two(1) at 9", x.two(1), 9);
         C.due("no deed twice", Check.townOf("t1 0;p0 0;d0 5 5 7;").two(0), 7);
         C.due("one each", Check.townOf("t1 0;p0 0;d0 5 5 7;d0 5 5 6;d0 5 5 5;").two(0), 13);
+        C.due("no deeds", Check.townOf("t1 0;").two(0), 0);
+        C.due("only the one gets there", Check.townOf("t2 0;p0 0;d0 5 5 7;d0 5 10 1;").two(1), 8);
+        C.due("only the other gets there", Check.townOf("t2 0;p1 0;d0 5 5 7;d0 5 10 1;").two(1), 8);
         C.due("no squares", new LoneAdjective().two(0), UNKNOWN);
     }
 
@@ -122,7 +125,9 @@ public final class TriedTest {
         chain(Towns.MARKET, 0, 3, NONE, NONE);
         chain(Towns.MARKET, 3, 3, BILLION, 1);
         chain(three + "q0 1 10;q1 2 10;q0 2 10;", 0, 2, BILLION, 2);
+        chain(three + "q0 1 10;q0 2 10;q2 1 10;", 0, 1, BILLION, 2);
         chain(three + "q0 1 10;q1 2 10;q0 2 9;", 0, 2, BILLION, 3);
+        chain(three + "q1 0 7;q0 2 5;", 1, 2, 350000000, 3);
         chain(three + "q0 1 0;", 0, 1, 0, 2);
         chain(three + "q0 1 0;q1 2 5;q0 2 0;", 0, 2, 0, 2);
         chain(three + "q0 1 0;q1 2 5;", 0, 2, 0, 3);
@@ -162,7 +167,13 @@ public final class TriedTest {
         C.due("he pays", alone.sold(3, 0, 1), 0);
         LoneAdjective poor = Check.townOf("t1 0;p0 0;p0 0;");
         C.due("of like ones the least", poor.sold(9, 0, 0), 9);
+        C.due("for nothing", poor.sold(9, 0, 1), 0);
         C.due("the other", poor.sold(9, 1, 0), 0);
+        LoneAdjective six = Check.townOf("t1 0;p0 1;p0 2;p0 3;p0 4;p0 5;p0 6;");
+        C.due("six people", six.sold(1, 5, 1), 5);
+        Check.feed(six, "t1 0;p0 1;p0 2;");
+        six.town();
+        C.due("who is gone does not bid", six.sold(1, 1, 1), 1);
         C.due("sold(0, 0, 0)", x.sold(0, 0, 0), OUTSIDE);
         C.due("sold(10, 0, 0)", x.sold(10, 0, 0), OUTSIDE);
         C.due("sold(1, 0, 2)", x.sold(1, 0, 2), OUTSIDE);
