@@ -123,7 +123,7 @@ public final class LoneAdjective {
     }
 
     public int trust(int a, int b) {
-        if (!current.isPerson(a) || !current.isPerson(b)) {
+        if (!current.areTwoPeople(a, b)) {
             return UNKNOWN;
         }
         return current.odds[a][b];
@@ -246,7 +246,7 @@ public final class LoneAdjective {
     // ---- trust, minutes, thieves
 
     public int chain(int a, int b, int what) {
-        if (!current.isPerson(a) || !current.isPerson(b)) {
+        if (!current.areTwoPeople(a, b)) {
             return UNKNOWN;
         }
         if (what < 0 || what > 1) {
@@ -539,6 +539,11 @@ public final class LoneAdjective {
 
         boolean isPerson(int p) {
             return p >= 0 && p < people;
+        }
+
+        /** One person named twice is refused like one that there is not. */
+        boolean areTwoPeople(int a, int b) {
+            return isPerson(a) && isPerson(b) && a != b;
         }
 
         boolean isDeed(int i) {

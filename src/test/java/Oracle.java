@@ -266,7 +266,7 @@ final class Oracle {
     }
 
     int trust(int a, int b) {
-        if (noPerson(a) || noPerson(b)) return UNKNOWN;
+        if (noPerson(a) || noPerson(b) || a == b) return UNKNOWN;
         return place.trust.getOrDefault(List.of(a, b), NONE);
     }
 
@@ -449,7 +449,7 @@ final class Oracle {
     }
 
     int chain(int a, int b, int what) {
-        if (noPerson(a) || noPerson(b)) return UNKNOWN;
+        if (noPerson(a) || noPerson(b) || a == b) return UNKNOWN;
         if (what != 0 && what != 1) return OUTSIDE;
         return bestChain(a, b)[what];
     }

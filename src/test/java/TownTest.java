@@ -328,7 +328,8 @@ public final class TownTest {
         C.due("just in time", late.deed(1, 5), 0);
         C.due("trust(0, 1)", x.trust(0, 1), 9);
         C.due("trust(1, 0)", x.trust(1, 0), NONE);
-        C.due("trust(0, 0)", x.trust(0, 0), NONE);
+        C.due("trust(0, 0)", x.trust(0, 0), UNKNOWN);
+        C.due("trust(3, 3)", x.trust(3, 3), UNKNOWN);
         C.due("trust(4, 0)", x.trust(4, 0), UNKNOWN);
         C.due("trust(0, 4)", x.trust(0, 4), UNKNOWN);
         C.due("trust(-1, 0)", x.trust(-1, 0), UNKNOWN);

@@ -123,7 +123,8 @@ public final class TriedTest {
         chain(Towns.MARKET, 0, 2, 450000000, 3);
         chain(Towns.MARKET, 2, 0, NONE, NONE);
         chain(Towns.MARKET, 0, 3, NONE, NONE);
-        chain(Towns.MARKET, 3, 3, BILLION, 1);
+        chain(Towns.MARKET, 0, 0, UNKNOWN, UNKNOWN);
+        chain(Towns.MARKET, 3, 3, UNKNOWN, UNKNOWN);
         chain(three + "q0 1 10;q1 2 10;q0 2 10;", 0, 2, BILLION, 2);
         chain(three + "q0 1 10;q0 2 10;q2 1 10;", 0, 1, BILLION, 2);
         chain(three + "q0 1 10;q1 2 10;q0 2 9;", 0, 2, BILLION, 3);
@@ -136,6 +137,7 @@ public final class TriedTest {
         C.due("chain(4, 0, 0)", x.chain(4, 0, 0), UNKNOWN);
         C.due("chain(0, 4, 0)", x.chain(0, 4, 0), UNKNOWN);
         C.due("chain(0, -1, 5)", x.chain(0, -1, 5), UNKNOWN);
+        C.due("chain(0, 0, 2)", x.chain(0, 0, 2), UNKNOWN);
         C.due("chain(0, 1, 2)", x.chain(0, 1, 2), OUTSIDE);
         C.due("chain(0, 1, -1)", x.chain(0, 1, -1), OUTSIDE);
     }
