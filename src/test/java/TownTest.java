@@ -15,7 +15,6 @@ public final class TownTest {
         faultFour();
         goodTexts();
         olderTexts();
-        fullTexts();
         toldEdges();
         farAndPeople();
         deedsTrustWords();
@@ -246,22 +245,6 @@ public final class TownTest {
         C.due("one person", x.told(1), 1);
         C.due("no words", x.told(3), 0);
         C.due("his square", x.person(0, 0), 1);
-    }
-
-    private static void fullTexts() {
-        LoneAdjective x = new LoneAdjective();
-        Check.feed(x, "t1 0;" + " ".repeat(245));
-        C.due("letters", x.told(4), 250);
-        C.due("town of 250 letters", x.town(), 0);
-        Check.feed(x, "t1 0;" + " ".repeat(244) + "p");
-        C.due("town that ends in a word", x.town(), -11);
-        C.due("its fault", x.fault(), 250);
-        Check.feed(x, "t" + "0".repeat(249));
-        C.due("town that ends in figures", x.town(), -12);
-        C.due("its fault", x.fault(), 1);
-        Check.feed(x, "t1 " + " ".repeat(246) + "0");
-        C.due("town that ends in a number", x.town(), -11);
-        C.due("its fault", x.fault(), 250);
     }
 
     private static void toldEdges() {
