@@ -57,6 +57,10 @@ final class Oracle {
     private final Now[] images = new Now[2];
     private final List<int[]> told = new ArrayList<>();
     private final List<int[]> diary = new ArrayList<>();
+    // What holds as long as the town does is worked out once, or large towns would take minutes.
+    private final Map<List<Integer>, Integer> farKnown = new HashMap<>();
+    private final Map<List<Integer>, Boolean> forcedKnown = new HashMap<>();
+    private final Map<List<Integer>, Map<List<Integer>, int[]>> roundsKnown = new HashMap<>();
 
     int feed(int letter) {
         if (letter < 0 || letter > 255) return OUTSIDE;
@@ -77,6 +81,9 @@ final class Oracle {
         }
         faultAt = NONE;
         place = p;
+        farKnown.clear();
+        forcedKnown.clear();
+        roundsKnown.clear();
         long seed = now.seed;
         now = new Now();
         now.seed = seed;
@@ -238,9 +245,13 @@ final class Oracle {
         return what < 0 || what >= all.length ? OUTSIDE : all[what];
     }
 
-    // Settles squares nearest first.
     int far(int a, int b) {
         if (noSquare(a) || noSquare(b)) return UNKNOWN;
+        return farKnown.computeIfAbsent(List.of(a, b), two -> walked(a, b));
+    }
+
+    // Way by way, as often as there are squares.
+    private int walked(int a, int b) {
         Map<Integer, Integer> best = new HashMap<>();
         best.put(a, 0);
         for (int k = 0; k < place.squares; k++) {
@@ -358,6 +369,13 @@ final class Oracle {
     }
 
     private Map<List<Integer>, int[]> rounds(List<Integer> of, int square, int minute) {
+        List<Integer> key = new ArrayList<>(of);
+        key.add(square);
+        key.add(minute);
+        return roundsKnown.computeIfAbsent(key, all -> walkAll(of, square, minute));
+    }
+
+    private Map<List<Integer>, int[]> walkAll(List<Integer> of, int square, int minute) {
         Map<List<Integer>, int[]> all = new HashMap<>();
         for (List<Integer> row : rows(of)) {
             int[] ends = walk(row, square, minute);
@@ -488,20 +506,20 @@ final class Oracle {
     }
 
     // Whether an end can be forced within so many moves, asked move by move.
-    private boolean forced(int end, int t, int w, int g, boolean thiefs, int moves, Map<List<Integer>, Boolean> known) {
+    private boolean forced(int end, int t, int w, int g, boolean thiefs, int moves) {
         if (t == w) return end == 2;
         if (t == g) return end == 1;
         if (moves == 0) return false;
-        List<Integer> key = List.of(t, w, thiefs ? 1 : 0, moves);
-        Boolean had = known.get(key);
+        List<Integer> key = List.of(end, t, w, g, thiefs ? 1 : 0, moves);
+        Boolean had = forcedKnown.get(key);
         if (had != null) return had;
         boolean wants = thiefs == (end == 1);
         boolean answer = !wants;
         for (int to : steps(thiefs ? t : w)) {
-            boolean f = forced(end, thiefs ? to : t, thiefs ? w : to, g, !thiefs, moves - 1, known);
+            boolean f = forced(end, thiefs ? to : t, thiefs ? w : to, g, !thiefs, moves - 1);
             if (f == wants) answer = wants;
         }
-        known.put(key, answer);
+        forcedKnown.put(key, answer);
         return answer;
     }
 
@@ -509,9 +527,8 @@ final class Oracle {
         if (noSquare(a) || noSquare(b) || noSquare(g)) return UNKNOWN;
         if (what != 0 && what != 1) return OUTSIDE;
         for (int end = 1; end <= 2; end++) {
-            Map<List<Integer>, Boolean> known = new HashMap<>();
             for (int moves = 0; moves <= 100; moves++) {
-                if (forced(end, a, b, g, true, moves, known)) return what == 0 ? end : moves / 2 + moves % 2;
+                if (forced(end, a, b, g, true, moves)) return what == 0 ? end : moves / 2 + moves % 2;
             }
         }
         return what == 0 ? 0 : NONE;

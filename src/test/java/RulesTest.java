@@ -1,3 +1,4 @@
+import java.lang.reflect.Array;
 import java.lang.reflect.Constructor;
 import java.lang.reflect.Field;
 import java.lang.reflect.Method;
@@ -25,6 +26,8 @@ public final class RulesTest {
         String source = Files.readString(Path.of("src/main/java/LoneAdjective.java"));
         words(source);
         signs(source);
+        methods(source);
+        room(source);
         C.end();
     }
 
@@ -112,5 +115,54 @@ public final class RulesTest {
         }
         C.holds("plain signs", plain);
         C.holds("lines of some length", longest <= 140);
+    }
+
+    /** From the line that opens a method to the one that closes it, by how far they stand in. */
+    private static void methods(String source) {
+        String[] lines = source.split("\n");
+        for (int k = 0; k < lines.length; k++) {
+            Matcher opens = Pattern.compile("( {4}| {8})(?! )(?!.*\\bclass\\b).*\\) \\{").matcher(lines[k]);
+            if (opens.matches()) {
+                int end = k;
+                while (end < lines.length && !lines[end].equals(opens.group(1) + "}")) {
+                    end++;
+                }
+                C.holds("some sixty lines: " + lines[k].trim(), end - k < 60);
+            }
+        }
+    }
+
+    /** Nothing is made but in fields, so that a call makes nothing; what one object has is little. */
+    private static void room(String source) throws IllegalAccessException {
+        for (String line : source.split("\n")) {
+            C.holds("made in a field: " + line.trim(), !line.matches(".*\\bnew\\b.*")
+                || line.matches(" +(private )?(final )?[A-Z]?\\w+(\\[\\])* \\w+ = new .*;"));
+        }
+        List<Object> made = new ArrayList<>();
+        int elements = reach(new LoneAdjective(), made);
+        C.holds("objects and arrays of one: " + made.size(), made.size() < 150);
+        C.holds("fields and elements of one: " + elements, elements < 2000);
+    }
+
+    /** Fields and elements of all that can be reached from it. */
+    private static int reach(Object from, List<Object> made) throws IllegalAccessException {
+        for (Object each : made) {
+            if (each == from) return 0;
+        }
+        made.add(from);
+        int count = 0;
+        if (from.getClass().isArray()) {
+            int length = Array.getLength(from);
+            for (int k = 0; k < length && from instanceof Object[]; k++) count += reach(Array.get(from, k), made);
+            return count + length;
+        }
+        for (Class<?> of = from.getClass(); of != Object.class; of = of.getSuperclass()) {
+            for (Field f : of.getDeclaredFields()) {
+                if (Modifier.isStatic(f.getModifiers())) continue;
+                f.setAccessible(true);
+                count += 1 + (f.getType().isPrimitive() || f.get(from) == null ? 0 : reach(f.get(from), made));
+            }
+        }
+        return count;
     }
 }

@@ -13,7 +13,7 @@ import java.util.regex.Pattern;
  */
 final class Run {
     /** Behind so many calls the document promises nothing, so that a test may not ask either. */
-    private static final int PROMISED = 512;
+    static final int PROMISED = 512;
     private static final Pattern CALL = Pattern.compile("(?:(\\d+) \\* )?(\\w+)\\(([^)]*)\\)(?: = (-?\\w+))?");
     private static final Map<String, Method> FACE = new HashMap<>();
 
@@ -107,6 +107,11 @@ final class Run {
         } else {
             check.due(label, got, number(m.group(4)));
         }
+    }
+
+    /** The last call was the last one that is promised. */
+    void usedUp() {
+        check.due(sentence + ": calls", calls, PROMISED);
     }
 
     private static int number(String s) {

@@ -221,7 +221,8 @@ public final class TriedBoundsTest {
         on(Towns.CITY, "the one makes it least, the other most").is("thief(0, 5, 6, 0) = 2; thief(0, 5, 6, 1) = 5;"
             + "thief(5, 0, 6, 0) = 1; thief(5, 0, 6, 1) = 1;"
             + "thief(1, 0, 6, 0) = 1; thief(1, 0, 6, 1) = 5; thief(0, 1, 6, 0) = 2; thief(0, 1, 6, 1) = 1");
-        on(Towns.CITY, "another g: what was solved before does not stay").is("thief(2, 0, 6, 1) = 4; thief(2, 0, 4, 1) = 2; thief(2, 0, 3, 1) = 1;"
+        on(Towns.CITY, "another g: what was solved before does not stay").is("thief(2, 0, 6, 1) = 4; thief(2, 0, 4, 1) = 2;"
+            + "thief(2, 0, 3, 1) = 1;"
             + "thief(2, 0, 2, 1) = 0; thief(0, 2, 6, 1) = 2; thief(2, 0, 5, 1) = 3; thief(4, 6, 0, 1) = 4; thief(2, 0, 6, 1) = 4");
         on("t5 0;w0 1 1;w1 2 1;w2 3 1;w3 0 1;", "a ring: neither").is("thief(0, 2, 4, 0) = 0; thief(0, 2, 4, 1) = NONE;"
             + "thief(0, 1, 4, 0) = 0");
